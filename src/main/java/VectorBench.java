@@ -412,19 +412,19 @@ public final class VectorBench {
         }
 
         int[] inverted(int[] a) {
-            return turnedIf(Circuit.HIGH, a);
-        }
-
-        int[] turnedIf(int condition, int[] a) {
             int[] row = new int[a.length];
             for (int i = 0; i < a.length; i++) {
-                row[i] = circuit.xor(a[i], condition);
+                row[i] = circuit.not(a[i]);
             }
             return row;
         }
 
         int[] negatedIf(int condition, int[] a) {
-            return withoutCarry(sum(turnedIf(condition, a), new int[a.length], condition));
+            int[] turned = new int[a.length];
+            for (int i = 0; i < a.length; i++) {
+                turned[i] = circuit.xor(a[i], condition);
+            }
+            return withoutCarry(sum(turned, new int[a.length], condition));
         }
 
         int[] joined(int gate, int[] a, int[] b) {
@@ -486,10 +486,10 @@ public final class VectorBench {
             int[] quotient = new int[width];
             int[] rest = new int[width];
             for (int i = width - 1; i >= 0; i--) {
-                int beyond = rest[width - 1];
+                // The highest bit of the rest is 0 here: a rest is no greater than the part of a that is done.
                 int[] next = moved(rest, 1, true, a[i]);
                 int[] tried = sum(next, takenAway, Circuit.HIGH);
-                quotient[i] = circuit.or(beyond, tried[width]);
+                quotient[i] = tried[width];
                 rest = picked(quotient[i], tried, next);
             }
             return wantsRest ? rest : quotient;
