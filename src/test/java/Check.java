@@ -8,10 +8,25 @@ final class Check {
 
     static final String ARGUMENT = "throws.IllegalArgumentException";
     static final String STATE = "throws.IllegalStateException";
+    static final int MOST_WEIGHT = 100000;
 
     private static int wrong = 0;
 
     private Check() {
+    }
+
+    /** One sentence of the document with the test of its own, so that what fails names what is broken. */
+    static void sentence(String words, Runnable test) {
+        int before = wrong;
+        try {
+            test.run();
+        } catch (RuntimeException e) {
+            wrong++;
+            System.out.println("the test itself was stopped by " + e);
+        }
+        if (wrong > before) {
+            System.out.println("NOT HELD: " + words);
+        }
     }
 
     /** What a call answers, as the issues write it. */
@@ -52,6 +67,12 @@ final class Check {
         return text.toString();
     }
 
+    /** Numbers that no vector of the bench has. */
+    static int[] noVectors(VectorBench x) {
+        int next = x.vectors();
+        return new int[] {-1, next, next + 1, -next - 1, 3999, 4000, 4001, Integer.MAX_VALUE, Integer.MIN_VALUE};
+    }
+
     /** An object that weighs 100000 less so much; its vector 0 is an input of width 8. */
     static VectorBench withRoom(int room) {
         VectorBench x = new VectorBench();
@@ -62,11 +83,11 @@ final class Check {
 
     static void fill(VectorBench x, int room) {
         int big = x.constant(64, 0);
-        while (100000 - x.weight() - room >= 640) {
-            x.one(1, big);
+        while (MOST_WEIGHT - x.weight() - room >= 1920) {
+            x.two(10, big, big);
         }
-        while (100000 - x.weight() - room > 0) {
-            x.constant(Math.min(64, 100000 - x.weight() - room), 0);
+        while (MOST_WEIGHT - x.weight() - room > 0) {
+            x.constant(Math.min(64, MOST_WEIGHT - x.weight() - room), 0);
         }
     }
 

@@ -1,11 +1,13 @@
 /** Promise 11: an input's value changes, and with it what is made of it. */
 public final class Promise11SetTest {
     public static void main(String[] args) {
-        valuesBefore();
-        everythingFollows();
-        laterInputs();
-        wrongArguments();
-        fullBench();
+        Check.sentence("11: Sets an input's value ..: the one before.", Promise11SetTest::valuesBefore);
+        Check.sentence("11: Sets an input's value, and that of no other", Promise11SetTest::noOther);
+        Check.sentence("11: all that is made of it has the values that come of this", Promise11SetTest::allFollows);
+        Check.sentence("11: .. also where inputs are made behind it", Promise11SetTest::laterInputs);
+        Check.sentence("11: Illegal argument", Promise11SetTest::noSuchVector);
+        Check.sentence("11: Illegal argument: also if the vector is no input.", Promise11SetTest::noInput);
+        Check.sentence("11: no illegal state", Promise11SetTest::fullBench);
         Check.end();
     }
 
@@ -17,6 +19,7 @@ public final class Promise11SetTest {
             for (long value : Reference.edges(w)) {
                 Check.due("width " + w + ": set(0, " + value + ")", () -> x.set(0, value), before);
                 before = Reference.told(w, Reference.number(w, value));
+                Check.due("set(0, " + value + ") again", () -> x.set(0, value), before);
                 Check.due("value(0)", () -> x.value(0), before);
             }
             Check.same("weight behind sets", x.weight(), w);
@@ -24,7 +27,21 @@ public final class Promise11SetTest {
         }
     }
 
-    private static void everythingFollows() {
+    private static void noOther() {
+        VectorBench x = new VectorBench();
+        for (int v = 0; v < 3; v++) {
+            x.input(64);
+        }
+        x.set(1, -1);
+        Check.due("value(0)", () -> x.value(0), 0);
+        Check.due("value(1)", () -> x.value(1), -1);
+        Check.due("value(2)", () -> x.value(2), 0);
+        x.set(2, 7);
+        x.set(1, 0);
+        Check.due("value(2)", () -> x.value(2), 7);
+    }
+
+    private static void allFollows() {
         VectorBench x = new VectorBench();
         x.input(8);
         x.input(8);
@@ -67,25 +84,30 @@ public final class Promise11SetTest {
         Check.same("26", x.value(3), 26L);
     }
 
-    private static void wrongArguments() {
+    private static void noSuchVector() {
         VectorBench x = new VectorBench();
         x.input(4);
         x.set(0, 6);
-        x.constant(4, 5);
-        x.one(0, 0);
-        x.two(0, 0, 0);
-        x.compare(0, 0, 0);
-        x.choose(4, 0, 0);
-        x.concat(0, 0);
-        x.extract(0, 3, 0);
-        x.extend(0, 0, false);
-        x.extend(0, 0, true);
-        for (int v = 1; v < 10; v++) {
-            int made = v;
-            Check.refused(x, "set of vector " + v, () -> x.set(made, 1), Check.ARGUMENT);
-        }
-        for (int bad : new int[] {-1, 10, 4000, Integer.MAX_VALUE, Integer.MIN_VALUE}) {
+        for (int bad : Check.noVectors(x)) {
             Check.refused(x, "set(" + bad + ", 1)", () -> x.set(bad, 1), Check.ARGUMENT);
+        }
+    }
+
+    /** Whatever is made, be it the very bits of an input, is none. */
+    private static void noInput() {
+        for (int w : new int[] {1, 4, 63, 64}) {
+            for (Making making : Making.all(w)) {
+                VectorBench x = Making.bench(w);
+                x.set(0, 5);
+                int v = making.call.in(x);
+                if (!making.name.equals("input")) {
+                    Check.refused(x, "set of " + making.name, () -> x.set(v, 2), Check.ARGUMENT);
+                    Check.refused(x, "set of " + making.name + " to what it has",
+                        () -> x.set(v, x.value(v)), Check.ARGUMENT);
+                } else {
+                    Check.due("set of an input", () -> x.set(v, 1), 0);
+                }
+            }
         }
     }
 
@@ -93,5 +115,6 @@ public final class Promise11SetTest {
         VectorBench x = Check.withRoom(0);
         Check.due("set(0, 77) without room", () -> x.set(0, 77), 0);
         Check.due("value(0) without room", () -> x.value(0), 77);
+        Check.refused(x, "set(1, 77) without room, of no input", () -> x.set(1, 77), Check.ARGUMENT);
     }
 }

@@ -1,160 +1,63 @@
-/** Promise 12: the value of a vector, here of long chains made at random beside a model of them. */
+/** Promise 12: the value of a vector. */
 public final class Promise12ValueTest {
-    private final VectorBench x = new VectorBench();
-    private final Reference.Dice dice;
-    private final int[] widths = new int[600];
-    private final int[][] from = new int[600][];
-    private final long[] set = new long[600];
-    private int count = 0;
-    private int calls = 0;
-
-    private Promise12ValueTest(long seed) {
-        dice = new Reference.Dice(seed);
-    }
-
     public static void main(String[] args) {
-        for (int seed = 0; seed < 60; seed++) {
-            new Promise12ValueTest(seed).run(seed % 2 == 0 ? 6 : 64);
-        }
-        wrongArguments();
+        Check.sentence("12: The value of a vector.", Promise12ValueTest::eachMaking);
+        Check.sentence("12: asking for a value changes nothing", Promise12ValueTest::askedAgain);
+        Check.sentence("12: Illegal argument.", Promise12ValueTest::noSuchVector);
         Check.end();
     }
 
-    private void run(int widest) {
-        while (calls < 300) {
-            calls++;
-            int what = dice.below(14);
-            if (what < 2 || count < 3) {
-                int w = 1 + dice.below(widest);
-                add(what == 0 ? 0 : 1, w, dice.next(), 0, 0, 0);
-            } else if (what < 8) {
-                step();
-            } else if (what < 10) {
-                setSome();
-            } else {
-                int v = dice.below(count);
-                Check.same("value(" + v + ")", x.value(v), model(v));
-            }
+    /** One of each making, with answers reckoned by hand for a = 0xB3 and c = 1. */
+    private static void eachMaking() {
+        long[] wants = {0, 5, 0x4C, 0x4D,
+            0xB3, 0xB3, 0, 0x66, 0, 0x29, 1, 0, 1, 0, 0, 0, 0xFF,
+            1, 0, 1, 0, 1,
+            0xB3, 0x167, 0xB3, 1, 0xB3, 0xFFFFFFFFFFFFFFB3L};
+        VectorBench x = Making.bench(8);
+        int v = 2;
+        for (Making making : Making.all(8)) {
+            making.call.in(x);
         }
-        long[] all = models();
+        Check.due("vectors()", x::vectors, 2 + wants.length);
+        x.set(0, 0xB3);
+        x.set(1, 1);
+        Check.due("value(0)", () -> x.value(0), 0xB3);
+        Check.due("value(1)", () -> x.value(1), 1);
+        for (Making making : Making.all(8)) {
+            int each = v;
+            Check.due("value of " + making.name, () -> x.value(each), wants[v - 2]);
+            v++;
+        }
+    }
+
+    /** In any order, the last ones first too, and again. */
+    private static void askedAgain() {
+        VectorBench x = Making.bench(8);
+        for (Making making : Making.all(8)) {
+            making.call.in(x);
+        }
+        x.set(0, 0x2F);
+        int count = x.vectors();
+        long[] first = new long[count];
+        for (int v = count - 1; v >= 0; v--) {
+            first[v] = x.value(v);
+        }
+        int weight = x.weight();
         for (int v = 0; v < count; v++) {
-            Check.same("value(" + v + ") at the end", x.value(v), all[v]);
+            int each = v;
+            Check.due("value(" + v + ") again", () -> x.value(each), first[v]);
         }
+        Check.due("vectors()", x::vectors, count);
+        Check.due("weight()", x::weight, weight);
+        Check.due("set(0, 0)", () -> x.set(0, 0), 0x2F);
     }
 
-    private void setSome() {
-        int v = dice.below(count);
-        if (from[v][0] == 0) {
-            long value = dice.next();
-            Check.same("set(" + v + ")", x.set(v, value), set[v]);
-            set[v] = Reference.told(widths[v], Reference.number(widths[v], value));
-        }
-    }
-
-    private void step() {
-        int a = dice.below(count);
-        int b = partner(widths[a]);
-        int w = widths[a];
-        switch (dice.below(7)) {
-            case 0: add(2, w, 0, dice.below(2), a, 0); break;
-            case 1: add(3, w, 0, dice.below(13), a, b); break;
-            case 2: add(4, 1, 0, dice.below(5), a, b); break;
-            case 3: add(5, w, 0, partner(1), a, b); break;
-            case 4: add(6, w + widths[b], 0, 0, a, b); break;
-            case 5: {
-                int low = dice.below(w);
-                int high = low + dice.below(w - low);
-                add(7, high - low + 1, 0, a, high, low);
-                break;
-            }
-            default: {
-                int by = dice.below(65 - w);
-                add(8, w + by, 0, a, by, dice.below(2));
-                break;
-            }
-        }
-    }
-
-    private int partner(int w) {
-        int at = dice.below(count);
-        for (int i = 0; i < count; i++) {
-            int v = (at + i) % count;
-            if (widths[v] == w) {
-                return v;
-            }
-        }
-        return at;
-    }
-
-    /** Asks for a vector; where the bench refuses it, as it may for widths and weight, the model leaves it out. */
-    private void add(int how, int w, long value, int k, int a, int b) {
-        String got = Check.answer(() -> make(how, w, value, k, a, b));
-        boolean fits = fits(how, w, k, a, b);
-        if (!fits) {
-            Check.same("making " + how, got, Check.ARGUMENT);
-        } else if (!got.equals(Check.STATE)) {
-            Check.same("making " + how, got, Integer.toString(count));
-            widths[count] = w;
-            from[count] = new int[] {how, k, a, b};
-            set[count] = how == 1 ? Reference.told(w, Reference.number(w, value)) : 0;
-            count++;
-        }
-    }
-
-    private boolean fits(int how, int w, int k, int a, int b) {
-        switch (how) {
-            case 3: case 4: return widths[a] == widths[b];
-            case 5: return widths[a] == widths[b] && widths[k] == 1;
-            default: return w <= 64;
-        }
-    }
-
-    private long make(int how, int w, long value, int k, int a, int b) {
-        switch (how) {
-            case 0: return x.input(w);
-            case 1: return x.constant(w, value);
-            case 2: return x.one(k, a);
-            case 3: return x.two(k, a, b);
-            case 4: return x.compare(k, a, b);
-            case 5: return x.choose(k, a, b);
-            case 6: return x.concat(a, b);
-            case 7: return x.extract(k, a, b);
-            default: return x.extend(k, a, b == 1);
-        }
-    }
-
-    private long model(int v) {
-        return models()[v];
-    }
-
-    private long[] models() {
-        long[] all = new long[count];
-        for (int v = 0; v < count; v++) {
-            int k = from[v][1];
-            int a = from[v][2];
-            int b = from[v][3];
-            switch (from[v][0]) {
-                case 0: case 1: all[v] = set[v]; break;
-                case 2: all[v] = Reference.one(k, widths[a], all[a]); break;
-                case 3: all[v] = Reference.two(k, widths[a], all[a], all[b]); break;
-                case 4: all[v] = Reference.compare(k, widths[a], all[a], all[b]); break;
-                case 5: all[v] = all[k] == 1 ? all[a] : all[b]; break;
-                case 6: all[v] = all[a] << widths[b] | all[b]; break;
-                case 7: all[v] = Reference.told(widths[v], Reference.number(64, all[k]).shiftRight(b)); break;
-                default:
-                    all[v] = Reference.told(widths[v], b == 1
-                        ? Reference.signed(widths[k], all[k]) : Reference.number(widths[k], all[k]));
-                    break;
-            }
-        }
-        return all;
-    }
-
-    private static void wrongArguments() {
+    private static void noSuchVector() {
         VectorBench x = new VectorBench();
+        Check.due("value(0) of none", () -> x.value(0), Check.ARGUMENT);
         x.constant(4, -1);
         Check.due("value(0)", () -> x.value(0), 15);
-        for (int bad : new int[] {-1, 1, 4000, Integer.MAX_VALUE, Integer.MIN_VALUE}) {
+        for (int bad : Check.noVectors(x)) {
             Check.refused(x, "value(" + bad + ")", () -> x.value(bad), Check.ARGUMENT);
         }
     }

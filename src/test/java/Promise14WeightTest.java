@@ -4,11 +4,20 @@ public final class Promise14WeightTest {
     private static final int[] TWO_OF_64 = {256, 256, 256, 640, 640, 57344, 67584, 67584, 70656, 70656,
         1920, 1920, 1920};
 
+    private interface Calls {
+        int in(VectorBench x);
+    }
+
     public static void main(String[] args) {
+        Check.sentence("14: what each making weighs, by hand", Promise14WeightTest::tables);
+        Check.sentence("14: What all vectors weigh.", Promise14WeightTest::allTogether);
+        Check.sentence("14: only what is made weighs", Promise14WeightTest::onlyWhatIsMade);
+        Check.end();
+    }
+
+    private static void tables() {
         table(3, TWO_OF_3);
         table(64, TWO_OF_64);
-        allTogether();
-        Check.end();
     }
 
     private static void table(int w, int[] two) {
@@ -30,11 +39,7 @@ public final class Promise14WeightTest {
         grows(w, "extend", x -> x.extend(1, 9, true), 10);
     }
 
-    private interface Making {
-        int in(VectorBench x);
-    }
-
-    private static void grows(int w, String what, Making making, int want) {
+    private static void grows(int w, String what, Calls making, int want) {
         VectorBench x = new VectorBench();
         x.input(w);
         x.input(1);
@@ -43,16 +48,32 @@ public final class Promise14WeightTest {
     }
 
     private static void allTogether() {
+        VectorBench none = new VectorBench();
+        Check.due("weight() of none", none::weight, 0);
+        VectorBench x = Making.bench(8);
+        int weight = 9;
+        Check.due("weight()", x::weight, weight);
+        for (Making making : Making.all(8)) {
+            making.call.in(x);
+            weight += making.weight;
+            Check.due("weight() with " + making.name + " too", x::weight, weight);
+        }
+    }
+
+    /** Neither what is set or asked for nor what is refused, up to the very limit. */
+    private static void onlyWhatIsMade() {
         VectorBench x = new VectorBench();
         x.input(64);
         x.two(8, 0, 0);
         Check.due("weight()", x::weight, 70720);
         Check.refused(x, "another division", () -> x.two(6, 0, 0), Check.STATE);
+        Check.refused(x, "an input too wide", () -> x.input(65), Check.ARGUMENT);
         Check.fill(x, 1);
         Check.due("weight()", x::weight, 99999);
         x.set(0, -1);
         x.value(1);
-        Check.due("weight() behind set and value", x::weight, 99999);
+        x.width(1);
+        Check.due("weight() behind set, value and width", x::weight, 99999);
         x.input(1);
         Check.due("weight() in full", x::weight, 100000);
         Check.refused(x, "an input more", () -> x.input(1), Check.STATE);

@@ -1,30 +1,43 @@
 /** Promise 15: how many vectors there are. */
 public final class Promise15VectorsTest {
     public static void main(String[] args) {
-        counts();
-        manyMore();
+        Check.sentence("15: How many vectors there are.", Promise15VectorsTest::counts);
+        Check.sentence("15: each making makes one", Promise15VectorsTest::eachMaking);
+        Check.sentence("15: only what is made counts", Promise15VectorsTest::onlyWhatIsMade);
         Check.end();
     }
 
     private static void counts() {
         VectorBench x = new VectorBench();
-        for (int i = 0; i < 250; i++) {
+        Check.due("vectors() of none", x::vectors, 0);
+        for (int i = 0; i < 255; i++) {
             Check.due("input(1)", () -> x.input(1), i);
             Check.due("vectors()", x::vectors, i + 1);
         }
-        Check.due("set(0, 1)", () -> x.set(0, 1), 0);
-        Check.due("input(65)", () -> x.input(65), Check.ARGUMENT);
-        Check.due("vectors() behind a call that throws", x::vectors, 250);
     }
 
-    /** What stands behind the 512th call is free, but the bench keeps to its 4000 all the same. */
-    private static void manyMore() {
-        VectorBench x = new VectorBench();
-        for (int i = 0; i < 4000; i++) {
-            x.constant(1, 1);
+    private static void eachMaking() {
+        for (int w : new int[] {1, 8, 64}) {
+            for (Making making : Making.all(w)) {
+                VectorBench x = Making.bench(w);
+                making.call.in(x);
+                Check.due("vectors() with " + making.name + " of " + w, x::vectors, 3);
+            }
         }
-        Check.due("vectors()", x::vectors, 4000);
-        Check.refused(x, "the vector behind 4000", () -> x.constant(1, 1), Check.STATE);
-        Check.refused(x, "a wrong one behind 4000", () -> x.constant(0, 1), Check.ARGUMENT);
+    }
+
+    private static void onlyWhatIsMade() {
+        VectorBench x = Making.bench(8);
+        x.set(0, 1);
+        x.value(0);
+        x.width(0);
+        x.weight();
+        Check.due("vectors() behind calls that make none", x::vectors, 2);
+        Check.due("input(65)", () -> x.input(65), Check.ARGUMENT);
+        Check.due("vectors() behind an illegal argument", x::vectors, 2);
+        Check.fill(x, 0);
+        int all = x.vectors();
+        Check.due("input(1)", () -> x.input(1), Check.STATE);
+        Check.due("vectors() behind an illegal state", x::vectors, all);
     }
 }
