@@ -10,6 +10,7 @@ public final class Promise01NewObjectTest {
         VectorBench x = new VectorBench();
         Check.due("vectors()", x::vectors, 0);
         Check.due("weight()", x::weight, 0);
+        Check.due("value(-1)", () -> x.value(-1), Check.ARGUMENT);
         Check.due("value(0)", () -> x.value(0), Check.ARGUMENT);
         Check.due("width(0)", () -> x.width(0), Check.ARGUMENT);
         Check.due("set(0, 0)", () -> x.set(0, 0), Check.ARGUMENT);
@@ -31,9 +32,13 @@ public final class Promise01NewObjectTest {
         VectorBench y = new VectorBench();
         Check.due("vectors() of another", y::vectors, 0);
         Check.due("weight() of another", y::weight, 0);
-        y.input(3);
+        y.input(4);
         y.set(0, 5);
+        y.input(7);
         Check.due("value(0) of the first", () -> x.value(0), 0);
+        Check.due("width(0) of the first", () -> x.width(0), 3);
+        Check.due("weight() of the first", x::weight, 3);
         Check.due("vectors() of the first", x::vectors, 1);
+        Check.due("weight() of the other", y::weight, 11);
     }
 }

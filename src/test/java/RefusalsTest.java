@@ -6,12 +6,14 @@ import java.util.List;
  * which of several exceptions, and that a call that throws changes nothing.
  */
 public final class RefusalsTest {
-    /** The bench of all these tests has vectors of the widths 8, 1, 8, 9, 64 first. */
+    /** The bench of all these tests has vectors of the widths 8, 1, 8, 9, 64, 2 first. */
     private static final int EIGHT = 0;
     private static final int SINGLE = 1;
     private static final int OTHER_EIGHT = 2;
     private static final int NINE = 3;
     private static final int WIDEST = 4;
+    private static final int PAIR = 5;
+    private static final int COUNT = 6;
 
     private interface Calls {
         long run(VectorBench x);
@@ -43,10 +45,12 @@ public final class RefusalsTest {
         x.input(8);
         x.input(9);
         x.input(64);
+        x.input(2);
         x.set(EIGHT, 0x5A);
         x.set(SINGLE, 1);
         x.set(NINE, 0x123);
         x.set(WIDEST, 0x0123456789ABCDEFL);
+        x.set(PAIR, 2);
         return x;
     }
 
@@ -94,7 +98,7 @@ public final class RefusalsTest {
     private static List<Wrong> ofOtherWidths() {
         List<Wrong> all = new ArrayList<>();
         int[][] pairs = {{EIGHT, NINE}, {NINE, EIGHT}, {EIGHT, SINGLE}, {SINGLE, EIGHT}, {EIGHT, WIDEST},
-            {WIDEST, EIGHT}};
+            {WIDEST, EIGHT}, {SINGLE, PAIR}, {PAIR, SINGLE}};
         for (int[] pair : pairs) {
             int a = pair[0];
             int b = pair[1];
@@ -109,7 +113,7 @@ public final class RefusalsTest {
             }
             all.add(new Wrong("choose" + names, x -> x.choose(SINGLE, a, b)));
         }
-        for (int c : new int[] {EIGHT, NINE, WIDEST}) {
+        for (int c : new int[] {EIGHT, NINE, WIDEST, PAIR}) {
             all.add(new Wrong("choose by vector " + c, x -> x.choose(c, EIGHT, OTHER_EIGHT)));
             all.add(new Wrong("choose by vector " + c + " of itself", x -> x.choose(c, c, c)));
         }
@@ -159,9 +163,9 @@ public final class RefusalsTest {
         for (int v : Check.noVectors(x)) {
             refused(x, withVector(v), Check.ARGUMENT);
         }
-        Check.due("value of the last there is", () -> x.value(WIDEST), 0x0123456789ABCDEFL);
-        Check.due("one of the last there is", () -> x.one(0, WIDEST), 5);
-        Check.due("one of what was no vector before", () -> x.one(0, 5), 6);
+        Check.due("value of the last there is", () -> x.value(PAIR), 2);
+        Check.due("one of the last there is", () -> x.one(0, PAIR), COUNT);
+        Check.due("one of what was no vector before", () -> x.one(0, COUNT), COUNT + 1);
     }
 
     private static void widthsDoNotFit() {
@@ -193,18 +197,18 @@ public final class RefusalsTest {
         }
         refused(x, ofOtherWidths(), Check.ARGUMENT);
         refused(x, ofOtherArguments(), Check.ARGUMENT);
-        Check.refused(x, "set of no input", () -> x.set(5, 1), Check.ARGUMENT);
+        Check.refused(x, "set of no input", () -> x.set(COUNT, 1), Check.ARGUMENT);
     }
 
     /** A bench that refused calls on its way goes on just like one that never met them. */
     private static void changesNothing() {
         VectorBench plain = bench();
         VectorBench tried = bench();
-        refused(tried, withVector(5), Check.ARGUMENT);
+        refused(tried, withVector(COUNT), Check.ARGUMENT);
         refused(tried, ofOtherWidths(), Check.ARGUMENT);
         refused(tried, ofOtherArguments(), Check.ARGUMENT);
         bothGoOn(plain, tried, 0);
-        Check.refused(tried, "set of no input", () -> tried.set(5, -1), Check.ARGUMENT);
+        Check.refused(tried, "set of no input", () -> tried.set(COUNT, -1), Check.ARGUMENT);
         Check.fill(plain, 200);
         Check.fill(tried, 200);
         for (int kind = 5; kind < Reference.TWOS; kind++) {

@@ -70,6 +70,7 @@ public final class TermsTest {
         Check.due("weight()", x::weight, 4000);
     }
 
+    /** The least and the greatest width come out of every call that can name one, and none beyond them. */
     private static void widths() {
         for (int w = 1; w <= 64; w++) {
             for (Making making : Making.all(w)) {
@@ -78,6 +79,18 @@ public final class TermsTest {
                 Check.due("width of " + making.name + " at " + w, () -> x.width(v), making.width);
             }
         }
+        VectorBench x = new VectorBench();
+        x.input(64);
+        x.input(1);
+        for (int bad : new int[] {0, 65}) {
+            Check.refused(x, "input(" + bad + ")", () -> x.input(bad), Check.ARGUMENT);
+            Check.refused(x, "constant(" + bad + ", 0)", () -> x.constant(bad, 0), Check.ARGUMENT);
+        }
+        Check.refused(x, "concat to 65", () -> x.concat(0, 1), Check.ARGUMENT);
+        Check.refused(x, "extract of 65", () -> x.extract(0, 64, 0), Check.ARGUMENT);
+        Check.refused(x, "extract of none", () -> x.extract(0, 0, 1), Check.ARGUMENT);
+        Check.refused(x, "extend to 65", () -> x.extend(0, 1, false), Check.ARGUMENT);
+        Check.refused(x, "extend to none", () -> x.extend(1, -1, false), Check.ARGUMENT);
     }
 
     /** 2^w - 1 is the greatest, and stands above the one whose highest bit alone is 1. */
