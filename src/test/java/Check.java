@@ -34,8 +34,15 @@ final class Check {
         try {
             return Long.toString(call.run());
         } catch (RuntimeException e) {
-            return "throws." + e.getClass().getSimpleName();
+            String name = "throws." + e.getClass().getSimpleName();
+            return thrownByTheClass(e) ? name : name + " of the machine or the library";
         }
+    }
+
+    /** An exception of the right name that Arrays or the machine threw would be right by luck alone. */
+    private static boolean thrownByTheClass(RuntimeException e) {
+        StackTraceElement[] trace = e.getStackTrace();
+        return trace.length > 0 && trace[0].getClassName().startsWith("VectorBench");
     }
 
     static void due(String what, Call call, Object want) {
